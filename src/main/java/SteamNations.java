@@ -988,26 +988,35 @@ public final class SteamNations {
         private final int[] marks = new int[MOST_CLAUSES * Text.MARKS];
         private boolean isOrders;
         private int now;
+        private int kind;
         private int steps;
         private int parts;
-        private int depth;
         int faultAt = NONE;
 
         /** The text, or null with faultAt, if it can't be. */
         Text read(int[] bytes, int length, boolean isOrders) {
             this.isOrders = isOrders;
-            now = 0;
             steps = 0;
             parts = 0;
-            depth = 0;
             faultAt = NONE;
             cut(bytes, Math.min(length, bytes.length));
-            int clauses = readClauses();
-            if (faultAt != NONE) {
-                return null;
+            now = NONE;
+            goOn();
+            for (int c = 0; c < MOST_CLAUSES; c++) {
+                boolean well = isOrders ? readOrder(c) : readRule(c);
+                if (!well || !readIf(c)) {
+                    return null;
+                }
+                if (kind == AT_END) {
+                    return new Text(Arrays.copyOf(code, steps * Machine.OF_STEP),
+                            Arrays.copyOf(marks, (c + 1) * Text.MARKS), c + 1);
+                }
+                if (!takeSign(';')) {
+                    return null;
+                }
             }
-            return new Text(Arrays.copyOf(code, steps * Machine.OF_STEP),
-                    Arrays.copyOf(marks, clauses * Text.MARKS), clauses);
+            wrong();
+            return null;
         }
 
         /** Cuts the bytes into tokens, the end behind them. */
@@ -1078,54 +1087,37 @@ public final class SteamNations {
             return number;
         }
 
-        private int readClauses() {
-            for (int c = 0; c < MOST_CLAUSES; c++) {
-                boolean well = isOrders ? readOrder(c) : readRule(c);
-                if (!well || !readIf(c)) {
-                    return 0;
-                }
-                if (kindHere() == AT_END) {
-                    return c + 1;
-                }
-                if (!takeSign(';')) {
-                    return 0;
-                }
-            }
-            wrong();
-            return 0;
-        }
-
         private boolean readRule(int c) {
-            int kind = kindHere();
-            if (kind != PASSES && kind != KEEPS && kind != LEAVES) {
+            int which = kind;
+            if (which != PASSES && which != KEEPS && which != LEAVES) {
                 return wrong();
             }
-            now++;
-            mark(c, Text.KIND, kind);
+            goOn();
+            mark(c, Text.KIND, which);
             mark(c, Text.TIMES, 1);
             mark(c, Text.FIRST_SUM, steps);
-            boolean well = kind != PASSES || readSum();
+            boolean well = which != PASSES || readSum(0);
             mark(c, Text.SECOND_SUM, steps);
             return well;
         }
 
         private boolean readOrder(int c) {
-            int kind = kindHere();
-            if (kind != SEAT && kind != OUT && kind != SWAP && kind != PASS) {
+            int which = kind;
+            if (which != SEAT && which != OUT && which != SWAP && which != PASS) {
                 return wrong();
             }
-            now++;
-            mark(c, Text.KIND, kind);
+            goOn();
+            mark(c, Text.KIND, which);
             mark(c, Text.FIRST_SUM, steps);
-            if (kind != PASS && !readSum()) {
+            if (which != PASS && !readSum(0)) {
                 return false;
             }
             mark(c, Text.SECOND_SUM, steps);
-            if (kind == SEAT || kind == SWAP) {
-                if (!takeIf(kind == SEAT ? AT : WITH)) {
+            if (which == SEAT || which == SWAP) {
+                if (!takeIf(which == SEAT ? AT : WITH)) {
                     return wrong();
                 }
-                if (!readSum()) {
+                if (!readSum(0)) {
                     return false;
                 }
             }
@@ -1141,39 +1133,39 @@ public final class SteamNations {
             if (times < 1 || times > MOST_TIMES) {
                 return wrong();
             }
-            now++;
+            goOn();
             mark(c, Text.TIMES, times);
             return true;
         }
 
         private boolean readIf(int c) {
             mark(c, Text.TEST, steps);
-            boolean well = !takeIf(IF) || readTest();
+            boolean well = !takeIf(IF) || readTest(0);
             mark(c, Text.STOP, steps);
             return well;
         }
 
-        private boolean readTest() {
-            boolean well = readBoth();
+        private boolean readTest(int depth) {
+            boolean well = readBoth(depth);
             for (int i = 0; i < MOST_BYTES && well && takeIf(OR); i++) {
                 int jump = put(Machine.OR, 0);
-                well = readBoth();
+                well = readBoth(depth);
                 land(jump);
             }
             return well;
         }
 
-        private boolean readBoth() {
-            boolean well = readPlain();
+        private boolean readBoth(int depth) {
+            boolean well = readPlain(depth);
             for (int i = 0; i < MOST_BYTES && well && takeIf(AND); i++) {
                 int jump = put(Machine.AND, 0);
-                well = readPlain();
+                well = readPlain(depth);
                 land(jump);
             }
             return well;
         }
 
-        private boolean readPlain() {
+        private boolean readPlain(int depth) {
             boolean turned = false;
             // A loop, since a text can have a hundred of them in a row.
             for (int i = 0; i < MOST_BYTES && takeIf(NOT); i++) {
@@ -1181,9 +1173,9 @@ public final class SteamNations {
             }
             boolean well;
             if (isSign('(')) {
-                well = takeOpening() && readTest() && takeClosing(')');
+                well = canOpen(depth) && takeSign('(') && readTest(depth + 1) && takeSign(')');
             } else {
-                well = readComparison();
+                well = readComparison(depth);
             }
             if (turned) {
                 put(Machine.NOT, 0);
@@ -1191,49 +1183,49 @@ public final class SteamNations {
             return well;
         }
 
-        private boolean readComparison() {
-            if (!readSum()) {
+        private boolean readComparison(int depth) {
+            if (!readSum(depth)) {
                 return false;
             }
-            int kind = Machine.SAME;
+            int which = Machine.SAME;
             if (isSign('<')) {
-                kind = Machine.LESS;
+                which = Machine.LESS;
             } else if (isSign('>')) {
-                kind = Machine.MORE;
+                which = Machine.MORE;
             } else if (!isSign('=')) {
                 return wrong();
             }
-            now++;
-            boolean well = readSum();
-            put(kind, 0);
+            goOn();
+            boolean well = readSum(depth);
+            put(which, 0);
             return well;
         }
 
-        private boolean readSum() {
-            boolean well = readTerm();
+        private boolean readSum(int depth) {
+            boolean well = readTerm(depth);
             for (int i = 0; i < MOST_BYTES && well && (isSign('+') || isSign('-')); i++) {
-                int kind = isSign('+') ? Machine.PLUS : Machine.MINUS;
-                now++;
-                well = readTerm();
-                put(kind, 0);
+                int which = isSign('+') ? Machine.PLUS : Machine.MINUS;
+                goOn();
+                well = readTerm(depth);
+                put(which, 0);
             }
             return well;
         }
 
-        private boolean readTerm() {
-            boolean well = readPart();
+        private boolean readTerm(int depth) {
+            boolean well = readPart(depth);
             for (int i = 0; i < MOST_BYTES && well && (isSign('*') || isSign('/') || isSign('%')); i++) {
-                int kind = isSign('*') ? Machine.MULTIPLY : isSign('/') ? Machine.DIVIDE : Machine.REMAIN;
-                now++;
-                well = readPart();
-                put(kind, 0);
+                int which = isSign('*') ? Machine.MULTIPLY : isSign('/') ? Machine.DIVIDE : Machine.REMAIN;
+                goOn();
+                well = readPart(depth);
+                put(which, 0);
             }
             return well;
         }
 
-        private boolean readPart() {
+        private boolean readPart(int depth) {
             if (isSign('[')) {
-                return takeOpening() && readSum() && takeClosing(']');
+                return canOpen(depth) && takeSign('[') && readSum(depth + 1) && takeSign(']');
             }
             if (parts >= MOST_PARTS) {
                 return wrong();
@@ -1247,27 +1239,26 @@ public final class SteamNations {
                 return wrong();
             }
             put(Machine.NUMBER, number);
-            now++;
+            goOn();
             return true;
         }
 
         private boolean readLawWord() {
-            int word = kindHere();
-            if (word > MOOD_NOW) {
+            if (kind > MOOD_NOW) {
                 return wrong();
             }
-            put(Machine.WORD, word);
-            now++;
+            put(Machine.WORD, kind);
+            goOn();
             return true;
         }
 
         private boolean readOrdersWord() {
-            int word = kindHere();
+            int word = kind;
             boolean isPlain = word == MINUTE_NOW || word >= DONE && word <= PLEASED;
             if (!isPlain && word != IS && word != MUCH) {
                 return wrong();
             }
-            now++;
+            goOn();
             if (isPlain) {
                 put(Machine.WORD, word);
                 return true;
@@ -1277,63 +1268,54 @@ public final class SteamNations {
                 return wrong();
             }
             put(Machine.WORD, sitter + (word == IS ? IS_OF : MUCH_OF));
-            now++;
+            goOn();
             return true;
         }
 
-        private boolean takeOpening() {
-            if (depth >= MOST_DEPTH) {
-                return wrong();
-            }
-            depth++;
-            now++;
-            return true;
-        }
-
-        private boolean takeClosing(char bracket) {
-            depth--;
-            return takeSign(bracket);
+        private boolean canOpen(int depth) {
+            return depth < MOST_DEPTH || wrong();
         }
 
         private boolean takeSign(char sign) {
-            if (!isSign(sign)) {
+            if (kind != SIGNS_FROM + sign) {
                 return wrong();
             }
-            now++;
+            goOn();
             return true;
         }
 
         private boolean takeIf(int word) {
-            if (kindHere() != word) {
+            if (kind != word) {
                 return false;
             }
-            now++;
+            goOn();
             return true;
         }
 
         private boolean isSign(char sign) {
-            return kindHere() == SIGNS_FROM + sign;
-        }
-
-        private int kindHere() {
-            return now >= 0 && now < kinds.length ? kinds[now] : AT_END;
+            return kind == SIGNS_FROM + sign;
         }
 
         private int numberHere() {
-            return kindHere() == DIGITS && now < numbers.length ? numbers[now] : NONE;
+            return kind == DIGITS && now >= 0 && now < numbers.length ? numbers[now] : NONE;
         }
 
-        /** The token here can't go on; the first such one stays the fault. */
+        private void goOn() {
+            now++;
+            kind = now >= 0 && now < kinds.length ? kinds[now] : AT_END;
+        }
+
+        /** The token here can't go on: it is the fault. */
         private boolean wrong() {
-            if (faultAt == NONE && now >= 0 && now < starts.length) {
+            if (now >= 0 && now < starts.length) {
                 faultAt = starts[now];
             }
             return false;
         }
 
-        private int put(int kind, int number) {
+        private int put(int step, int number) {
             if (steps < MOST_BYTES) {
-                code[steps * Machine.OF_STEP] = kind;
+                code[steps * Machine.OF_STEP] = step;
                 code[steps * Machine.OF_STEP + 1] = number;
                 steps++;
             }
