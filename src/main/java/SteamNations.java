@@ -102,7 +102,7 @@ public final class SteamNations {
             return answer(NO_ROOM);
         }
         past.clear();
-        return answer(house.room.add(red, blue, green, wish));
+        return answerChanged(house.room.add(red, blue, green, wish));
     }
 
     public int of(int sitter, int what) {
@@ -152,7 +152,7 @@ public final class SteamNations {
         int was = house.room.terms[what];
         house.room.terms[what] = value;
         past.clear();
-        return answer(was);
+        return answerChanged(was);
     }
 
     public int feed(int a, int b, int c, int d, int e) {
@@ -190,7 +190,7 @@ public final class SteamNations {
         }
         tapeLength = 0;
         past.clear();
-        return answer(came);
+        return answerChanged(came);
     }
 
     public int puffs() {
@@ -217,7 +217,7 @@ public final class SteamNations {
         if (text == null) {
             return answer(BAD_TEXT);
         }
-        return answer(errands.run(text));
+        return answerChanged(errands.run(text));
     }
 
     public int fault() {
@@ -234,28 +234,28 @@ public final class SteamNations {
         }
         int was = house.force;
         house.force = law;
-        answer(0);
+        answerChanged(0);
         return was;
     }
 
     public int seat(int sitter, int seat) {
-        return answer(moves.toSeat(sitter, seat));
+        return answerChanged(moves.toSeat(sitter, seat));
     }
 
     public int out(int sitter) {
-        return answer(moves.toSendOut(sitter));
+        return answerChanged(moves.toSendOut(sitter));
     }
 
     public int swap(int one, int other) {
-        return answer(moves.toExchange(one, other));
+        return answerChanged(moves.toExchange(one, other));
     }
 
     public int pass() {
-        return answer(moves.toPassMinute());
+        return answerChanged(moves.toPassMinute());
     }
 
     public int undo() {
-        return answer(past.bringBack(house.room));
+        return answerChanged(past.bringBack(house.room));
     }
 
     public int later(int sitter, int n, int what) {
@@ -461,7 +461,7 @@ public final class SteamNations {
         }
         house.copyFrom(images[k]);
         past.clear();
-        return answer(0);
+        return answerChanged(0);
     }
 
     public int count(int what) {
@@ -513,10 +513,16 @@ public final class SteamNations {
             }
         } else {
             latestRefusal = 0;
-            // Any such call may have changed what the seatings were looked at by.
-            seatings.makeStale();
         }
         return told;
+    }
+
+    /** The same of a call that changes what comes of seatings, if it is not REFUSED. */
+    private int answerChanged(int told) {
+        if (told >= 0) {
+            seatings.makeStale();
+        }
+        return answer(told);
     }
 
     private void putFour(int number) {
@@ -611,7 +617,6 @@ public final class SteamNations {
         final int[] terms = new int[FIRST_OF_TERM.length];
 
         Room() {
-            Arrays.fill(seats, NONE);
             System.arraycopy(FIRST_OF_TERM, 0, terms, 0, terms.length);
         }
 
@@ -823,11 +828,21 @@ public final class SteamNations {
         final int[] code;
         final int[] marks;
         final int clauses;
+        private final int kindBits;
 
         Text(int[] code, int[] marks, int clauses) {
             this.code = code;
             this.marks = marks;
             this.clauses = clauses;
+            int bits = 0;
+            for (int i = KIND; i < marks.length; i += MARKS) {
+                bits |= 1 << marks[i];
+            }
+            kindBits = bits;
+        }
+
+        boolean hasKind(int kind) {
+            return (kindBits >> kind & 1) == 1;
         }
 
         int markOf(int clause, int which) {
@@ -1351,7 +1366,7 @@ public final class SteamNations {
 
         /** Whether a "keeps", a "leaves" holds. */
         boolean anyHolds(Room room, Text law, int sitter, int kind) {
-            if (law.clauses == 0) {
+            if (!law.hasKind(kind)) {
                 return false;
             }
             sayWords(room, sitter, NONE);
@@ -1365,7 +1380,7 @@ public final class SteamNations {
 
         /** How many parts a sitter passes to one beside. */
         int partsTold(Room room, Text law, int sitter, int other) {
-            if (law.clauses == 0) {
+            if (!law.hasKind(Reader.PASSES)) {
                 return PASSED_WITHOUT;
             }
             sayWords(room, sitter, room.nationOf(other));

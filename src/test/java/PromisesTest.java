@@ -41,6 +41,8 @@ public final class PromisesTest {
         compare();
         mornings();
         imageAndBack();
+        lawsAndSightsOfImages();
+        seatingsOfNow();
         count();
         status();
         Check.close("PromisesTest");
@@ -153,12 +155,14 @@ public final class PromisesTest {
         for (int a = 0; a < 9; a++) {
             for (int b = 0; b < 9; b++) {
                 if (a != b) {
-                    SteamNations x = room(1, 0, 0, 1, 0, 0);
+                    SteamNations x = room(1, 0, 0, 0, 0, 0);
                     x.seat(0, a);
                     x.seat(1, b);
                     int seat = b;
                     boolean are = java.util.Arrays.stream(beside[a]).anyMatch(s -> s == seat);
                     due("asks from " + a + " to " + b, x.asks(0, 1), are ? 1 : NONE);
+                    x.pass();
+                    due("passes from " + a + " to " + b, x.of(1, 0), are ? 1 : 0);
                 }
             }
         }
@@ -268,6 +272,13 @@ public final class PromisesTest {
         Check.lawFault("keeps keeps", 6);
         Check.lawFault("keeps 1", 6);
         Check.lawFault("keepsif1=1", 0);
+        Check.lawFault("keepsz", 0);
+        Check.lawFault("akeeps", 0);
+        Check.lawFault("keeps{", 5);
+        Check.lawFault("keeps`", 5);
+        Check.lawFault("Keeps", 0);
+        Check.lawFault("passes 1:", 8);
+        Check.lawFault("passes 9/0", NONE);
         Check.lawFault("keeps if1=1", NONE);
         Check.lawFault("passes3if1=1and2=2or3=3", NONE);
         Check.lawFault("passes3ifnot1=1", 7);
@@ -404,6 +415,8 @@ public final class PromisesTest {
         due("broken ahead", Check.orders(x, "pass if 1/0=1 or 1=1; pass if 1/0=1 and 1=2 or 1=1"), 0);
         due("broken behind, it matters", Check.orders(x, "pass if 1=2 or 1/0=1; pass if not (1=1 and 1/0=1)"), 0);
         due("beyond", Check.orders(x, "pass if 1000*1000*1000=1000*1000*1000; pass if 1000*1000*1000+1>0; pass if 0-1000*1000*1000-1<0"), 1);
+        due("not beyond", Check.orders(x, "pass if 0-1000*1000*1000<0 and 0-1000*1000*1000=0-999*1000*1000-1000*1000"), 1);
+        due("beyond on the way", Check.orders(x, "pass if 1000*1000*1000*2/4>0; pass if 1000*1000*1000+1-1>0"), 0);
         due("cut towards 0", Check.orders(x, "pass if [0-7]/2=0-3; pass if [0-7]%2=0-1; pass if 7/[0-2]=0-3; pass if 7%[0-2]=1"), 4);
         due("from the left", Check.orders(x, "pass if 9-3-2=4; pass if 100/10*2=20; pass if 2+3*4=14; pass if [2+3]*4=20"), 4);
         due("and ahead of or", Check.orders(x, "pass if 1=1 or 1=1 and 1=2; pass if (1=1 or 1=1) and 1=2; pass if not 1=2 or 1=1"), 2);
@@ -731,6 +744,8 @@ public final class PromisesTest {
         due("behind 0: none needed", x.exchanges(0, 1), NONE);
         due("what 2", x.exchanges(0, 2), NONE);
         due("what -1", x.exchanges(0, -1), NONE);
+        due("what 2, one is needed", x.exchanges(1, 2), NONE);
+        due("what -1, one is needed", x.exchanges(1, -1), NONE);
         due("n 10", x.exchanges(10, 0), NONE);
         due("n -1", x.exchanges(-1, 1), NONE);
         due("on paper", x.of(2, 4), 1);
@@ -888,6 +903,7 @@ public final class PromisesTest {
         due("all of it at 60", x.drop(0, 60, 0) + x.drop(0, 60, 1) + x.drop(0, 60, 2), 1000000);
         Check.rule(x, "keeps; leaves");
         due("whatever the law", x.drop(1, 1, 1), 800000);
+        dropAlongSix();
         SteamNations y = room(1, 0, 0, 1, 0, 0);
         y.seat(0, 0);
         y.seat(1, 1);
@@ -899,6 +915,25 @@ public final class PromisesTest {
             had += gets - gives;
             other += gives - gets;
             due("cut, " + n, y.drop(0, n, 1), other);
+        }
+    }
+
+    /** Six in a line around the room: the last ones get few, down to a tenth of ten. */
+    private static void dropAlongSix() {
+        SteamNations x = room(1, 0, 0, 1, 0, 0, 1, 0, 0, 1, 0, 0, 1, 0, 0, 1, 0, 0);
+        int[] seats = {0, 1, 2, 5, 8, 7};
+        long[] has = {0, 1000000, 0, 0, 0, 0, 0, 0};
+        for (int p = 0; p < 6; p++) {
+            x.seat(p, seats[p]);
+        }
+        for (int n = 0; n <= 60; n++) {
+            long[] next = new long[8];
+            for (int p = 1; p <= 6; p++) {
+                due("line, " + n, x.drop(0, n, p - 1), has[p]);
+                long kept = has[p] - (p > 1 ? has[p] / 10 : 0) - (p < 6 ? has[p] / 10 : 0);
+                next[p] = kept + has[p - 1] / 10 + has[p + 1] / 10;
+            }
+            has = next;
         }
     }
 
@@ -1064,6 +1099,71 @@ public final class PromisesTest {
         due("minute", x.count(12), 77);
         due("back 0 again", x.back(0), 0);
         due("images stay", x.count(0), 2);
+    }
+
+    private static void lawsAndSightsOfImages() {
+        SteamNations x = room(9, 0, 0, 0, 5, 0);
+        x.seat(0, 0);
+        x.seat(1, 1);
+        x.seen(0, 0, 0);
+        x.image(0);
+        Check.rule(x, "passes 4");
+        x.forget();
+        x.seen(0, 0, 1);
+        x.image(1);
+        due("seen otherwise", x.sat(NONE, 0), 0);
+        x.back(0);
+        due("no law in force", x.asks(0, 1), 1);
+        due("seen as it was", x.sat(NONE, 0), 2);
+        Check.rule(x, "passes 6");
+        due("another law 0", x.asks(0, 1), 6);
+        x.back(1);
+        due("law 0 as it was", x.asks(0, 1), 4);
+        due("seen as it was then", x.sat(NONE, 0), 0);
+        x.seat(0, 3);
+        x.back(0);
+        due("undone, behind back()", x.count(4), 0);
+    }
+
+    /** What is told of seatings is of now, whatever was told of them ahead. */
+    private static void seatingsOfNow() {
+        SteamNations x = new SteamNations();
+        x.sitter(9, 8, 0, 1);
+        x.sitter(0, 9, 0, 1);
+        Check.law(x, "passes 0; passes 9 if mood = 1 and nation = 1");
+        x.force(0);
+        due("OUT", x.pleased(1, 0), 1);
+        x.seat(0, 0);
+        x.seat(1, 1);
+        due("seated", x.pleased(1, 2), 1);
+        due("mood 0", x.pleased(1, 0), 1);
+        due("terms tell 0", x.terms(2, 1), 0);
+        due("mood 1: 1 gives all, and is red", x.pleased(1, 0), 1);
+        due("mood 1: 0 is blue", x.seen(0, 1, 1), 1);
+        due("sat so", x.sat(NONE, 0), 2);
+        x.force(NONE);
+        due("without: both are blue", x.pleased(1, 0), 2);
+        x.seat(1, 4);
+        due("beside no more", x.pleased(1, 0), 1);
+        due("undo tells 0", x.undo(), 0);
+        due("beside again", x.pleased(1, 0), 2);
+        x.out(1);
+        due("OUT again", x.pleased(1, 2), NONE);
+        x.image(0);
+        due("orders", Check.orders(x, "seat 1 at 3"), 1);
+        due("beside by orders", x.pleased(1, 0), 2);
+        due("back tells 0", x.back(0), 0);
+        due("OUT as it was", x.pleased(1, 0), 1);
+        due("seated by calls", x.seat(1, 3), 2);
+        due("beside by calls", x.pleased(1, 0), 2);
+        x.pass();
+        x.swap(0, 1);
+        due("behind a minute and a swap", x.pleased(0, 0), 2);
+        x.sitter(1, 0, 0, 0);
+        due("one more", x.pleased(0, 0), 3);
+        Check.put(x, new byte[] {0, 1, 0, 1});
+        x.row();
+        due("one more by a row", x.pleased(0, 0), 4);
     }
 
     // Promise 38
