@@ -5,6 +5,7 @@ import java.util.Arrays;
 final class Check {
     private static int wrong = 0;
     private static int asked = 0;
+    private static String opened = "";
 
     private Check() {
     }
@@ -13,8 +14,13 @@ final class Check {
         asked++;
         if (got != want) {
             wrong++;
-            System.out.println(what + " answered " + got + ", due is " + want);
+            System.out.println(opened + what + " answered " + got + ", due is " + want);
         }
+    }
+
+    /** All that follows is of this. */
+    static void open(String name) {
+        opened = name.isEmpty() ? "" : name + ": ";
     }
 
     static void so(String what, boolean is) {
@@ -77,6 +83,21 @@ final class Check {
         SteamNations x = new SteamNations();
         due("orders " + text, orders(x, text), -6);
         due("fault of orders " + text, x.fault(), place);
+    }
+
+    /** Sitters of these parts, three numbers each, who all wish to be nation 0. */
+    static void sitters(SteamNations x, int... parts) {
+        for (int i = 0; i + 2 < parts.length; i += 3) {
+            x.sitter(parts[i], parts[i + 1], parts[i + 2], 0);
+        }
+    }
+
+    /** Six sitters of nothing on seats 0 to 5. */
+    static void fullRoom(SteamNations x) {
+        for (int p = 0; p < 6; p++) {
+            x.sitter(0, 0, 0, 0);
+            x.seat(p, p);
+        }
     }
 
     static String times(String text, int n) {
