@@ -224,10 +224,41 @@ final class KeptBoundaries {
         due("full: parts", x.count(15) * 10000 + x.count(16) * 100 + x.count(17), 544842);
         due("full: who is at 5", x.at(5), 5);
         due("full: wish", x.of(0, 3), 1);
+        due("full: its law", x.asks(0, 1), 5);
+        x.force(0);
+        due("full: its first law", x.asks(0, 1), 0);
+        due("full: what was seen is not so", x.sat(NONE, 0), 0);
         due("full: no room", x.sitter(0, 0, 0, 0), -5);
         due("full: no room for a law", Check.law(x, "keeps"), -5);
         due("full: no room for what is seen", x.seen(0, 0, 0), -5);
         due("images stay", x.back(0) + x.count(0), 0);
+    }
+
+    @Sentence(promises = {36, 37}, words = "BACK to one all that it keeps is as it was then")
+    static void whatWasSeenAndTheLawsAreBack(SteamNations x) {
+        Check.sitters(x, 5, 0, 0, 0, 5, 0);
+        x.seat(0, 0);
+        x.seat(1, 1);
+        Check.rule(x, "passes 2");
+        x.seen(0, 0, 0);
+        x.image(0);
+        x.forget();
+        x.seen(0, 0, 1);
+        x.image(1);
+        due("another was seen", x.sat(NONE, 0), 0);
+        x.back(0);
+        due("that was seen", x.sat(NONE, 0), 2);
+        due("its law", x.asks(0, 1), 2);
+        Check.law(x, "passes 3");
+        x.image(1);
+        x.back(0);
+        due("one law", x.count(3), 1);
+        due("another second law", Check.law(x, "passes 4"), 1);
+        x.force(1);
+        due("it is told", x.asks(0, 1), 4);
+        x.back(1);
+        x.force(1);
+        due("the second law of that image", x.asks(0, 1), 3);
     }
 
     @Sentence(promises = {37},

@@ -48,7 +48,10 @@ final class PaperBoundaries {
         for (int p : nobody) {
             due("nobody: " + p, x.later(p, 0, 0), NONE);
         }
+        due("what 1", x.later(1, 60, 1), 60);
         due("what 2", x.later(1, 60, 2), 0);
+        x.sitter(1, 2, 3, 0);
+        due("what 2, OUT", x.later(2, 60, 2), 3);
         noRefusal(x);
     }
 
@@ -295,6 +298,26 @@ final class PaperBoundaries {
         due("the highest two", y.exchanges(1, 1), 45);
     }
 
+    @Sentence(promises = {25}, words = "EXCHANGES: the fewest SWAPS of two BESIDE one another by which a SEATING comes about by which so many are")
+    static void fewestOfManyExchanges(SteamNations x) {
+        // 5 is at an end of a line of six, and is blue, as it wishes, at the other end alone.
+        int[] seats = {0, 3, 6, 7, 8, 5};
+        for (int p = 0; p < 6; p++) {
+            x.sitter(p == 5 ? 2 : 0, p == 5 ? 1 : 0, p == 5 ? 0 : 9, p == 5 ? 1 : 2);
+        }
+        for (int p = 0; p < 6; p++) {
+            x.seat(p, seats[p]);
+        }
+        Check.rule(x, "passes 0; passes 2 if sitter = 5 and tier = 0");
+        for (int left = 5; left > 0; left--) {
+            due("left", x.exchanges(1, 0), left);
+            due("with the next", x.exchanges(1, 1), 10 * (left - 1) + 5);
+            x.swap(5, left - 1);
+        }
+        due("none is left", x.exchanges(1, 0), 0);
+        due("none is needed", x.exchanges(1, 1), NONE);
+    }
+
     @Sentence(promises = {26}, words = "SEEN, 6 at most: n MINUTES 0 .. 9 on a SITTER was a NATION.")
     static void sixSeen(SteamNations x) {
         x.sitter(1, 0, 0, 0);
@@ -389,6 +412,8 @@ final class PaperBoundaries {
         x.seen(1, 9, 0);
         due("9 on: in the first", x.sat(NONE, 0), 1);
         due("its row", x.sat(0, 0) * 10 + x.sat(0, 1), 3);
+        x.seen(0, 9, 0);
+        due("0, 9 on", x.sat(NONE, 0), 1);
         x.seen(1, 0, 1);
         due("0 on", x.sat(NONE, 0), 1);
         x.seen(1, 9, 1);
@@ -439,6 +464,26 @@ final class PaperBoundaries {
         due("now: the lowest", x.ask(0, 0), 0);
         due("1 on: left", x.ask(1, 1), 4);
         due("1 on: the lower of two", x.ask(1, 0), 1);
+    }
+
+    @Sentence(promises = {29}, words = "the most of these SEATINGS would make the same NATION")
+    static void askOfTheLastNation(SteamNations x) {
+        // 0 is green now; it is red one minute on: at an end it has one of each then, in the middle a red alone.
+        x.sitter(1, 0, 2, 0);
+        x.sitter(0, 0, 9, 0);
+        x.sitter(0, 0, 9, 0);
+        x.seat(0, 0);
+        x.seat(1, 1);
+        x.seat(2, 2);
+        Check.rule(x, "passes 0; passes 1 if sitter = 0; keeps if sitter > 0");
+        due("now: green in all", x.ask(0, 1), 6);
+        due("1 on: 0 is red in all, the others green", x.ask(1, 1), 6);
+        x.out(2);
+        due("two seatings: green in both", x.ask(0, 1), 2);
+        x.seen(0, 0, 2);
+        due("seen green", x.sat(NONE, 0), 2);
+        x.seen(0, 1, 0);
+        due("seen red then", x.sat(NONE, 0), 2);
     }
 
     // Treaty, drop, few, compare
@@ -528,9 +573,19 @@ final class PaperBoundaries {
         for (int p = 0; p < 6; p++) {
             x.seat(p, seats[p]);
         }
+        long[] has = {0, 1000000, 0, 0, 0, 0, 0, 0};
+        for (int n = 0; n <= 60; n++) {
+            long[] next = new long[8];
+            for (int p = 1; p <= 6; p++) {
+                due("sitter " + (p - 1) + " at " + n, x.drop(0, n, p - 1), has[p]);
+                next[p] = has[p] - (p > 1 ? has[p] / 10 : 0) - (p < 6 ? has[p] / 10 : 0) + has[p - 1] / 10 + has[p + 1] / 10;
+            }
+            has = next;
+        }
         int[] first = {1000000, 100000, 10000, 1000, 100, 10};
         for (int p = 0; p < 6; p++) {
             due("first comes to " + p, x.drop(0, p, p), first[p]);
+            due("first comes from 5 to " + (5 - p), x.drop(5, p, 5 - p), first[p]);
             if (p > 0) {
                 due("not yet to " + p, x.drop(0, p - 1, p), 0);
             }

@@ -203,12 +203,13 @@ final class SitterBoundaries {
     @Sentence(promises = {5, 16},
             words = "of TIER 0 .. 2 (by 3, cut), PLACE 0 .. 2 (what is left)")
     static void noWayAroundTheEnds(SteamNations x) {
-        Check.sitters(x, 1, 0, 0, 1, 0, 0);
+        Check.sitters(x, 2, 0, 0, 1, 1, 0);
         int[][] apart = {{2, 3}, {5, 6}, {0, 2}, {3, 5}, {6, 8}, {0, 6}, {1, 7}, {2, 8}, {0, 8}, {0, 4}, {2, 4}, {4, 6}, {4, 8}, {1, 3}};
         for (int[] two : apart) {
             sit(x, two);
             due("from " + two[0] + " to " + two[1], x.asks(0, 1), NONE);
             due("from " + two[1] + " to " + two[0], x.asks(1, 0), NONE);
+            due("nothing is passed", x.later(0, 1, 0) * 10 + x.later(1, 1, 0), 21);
         }
         x.out(0);
         x.out(1);
@@ -233,6 +234,18 @@ final class SitterBoundaries {
             due("from " + two[0] + " to " + two[1], x.asks(0, 1), 1);
             due("from " + two[1] + " to " + two[0], x.asks(1, 0), 1);
         }
+        for (int[] two : beside) {
+            passed(two[0], two[1]);
+            passed(two[1], two[0]);
+        }
+    }
+
+    private static void passed(int from, int to) {
+        SteamNations x = new SteamNations();
+        Check.sitters(x, 1, 0, 0, 0, 0, 0);
+        sit(x, new int[] {from, to});
+        x.pass();
+        due("passed from " + from + " to " + to, x.of(1, 0), 1);
     }
 
     private static void sit(SteamNations x, int[] two) {
@@ -308,6 +321,25 @@ final class SitterBoundaries {
         x.terms(2, 3);
         due("its if is not so", x.asks(0, 1), 1);
         due("keeps not", x.of(0, 6), 0);
+    }
+
+    @Sentence(promises = {5, 11}, words = "nation: what the SITTER IS, much: how many PARTS it has of that; tier: of its SEAT.")
+    static void wordsOfOneOfNothing(SteamNations x) {
+        x.sitter(0, 0, 0, 2);
+        x.sitter(4, 99, 5, 1);
+        x.seat(0, 0);
+        x.seat(1, 1);
+        Check.rule(x, "passes 0; passes 7 if nation = 0 and much = 0 and tier = 0 and wish = 2 and sitter = 0 and other = 1;"
+                + "passes 8 if nation = 1 and much = 99 and tier = 0 and wish = 1 and sitter = 1 and other = 0;"
+                + "passes 6 if tier = 2 and minute = 999 and mood = 9");
+        due("one of nothing is nation 0", x.asks(0, 1), 7);
+        due("one of the most parts", x.asks(1, 0), 8);
+        x.seat(0, 8);
+        x.seat(1, 7);
+        due("others", x.asks(0, 1), 0);
+        x.terms(0, 999);
+        x.terms(2, 9);
+        due("the last tier, the last minute, the highest mood", x.asks(0, 1), 6);
     }
 
     @Sentence(promises = {6}, words = "TERMS: 0 MINUTE 0 .. 999 (0 at first), 1 FAINT 0 .. 10 (1), 2 MOOD 0 .. 9 (0).")

@@ -61,6 +61,10 @@ final class TextBoundaries {
         due("puffs", x.puffs(), 3);
         due("99 first", x.of(0, 0) * 10 + x.of(0, 3), 992);
         due("99 second", x.of(1, 1) * 10 + x.of(1, 3), 991);
+        x.feed(0x00006302, 0, 0, 0, 0);
+        x.end(4);
+        x.row();
+        due("99 third", x.of(2, 2) * 10 + x.of(2, 3), 992);
     }
 
     @Sentence(promises = {8}, words = "NONE, if it has not so many, or n is below 0.")
@@ -121,6 +125,7 @@ final class TextBoundaries {
         due("puffs", x.puffs(), 6);
         Check.put(x, new byte[4 * 7]);
         due("row to the brim", x.row(), 5);
+        due("the first's parts and wish", x.of(0, 0) * 10000 + x.of(0, 1) * 100 + x.of(0, 2) + x.of(0, 3), 1000001);
         due("two for whom there is no room", x.puffs(), 2);
         due("sitters", x.count(0), 6);
         Check.put(x, new byte[400]);
@@ -164,6 +169,9 @@ final class TextBoundaries {
         Check.lawFault("keepsif 1=1", 0);
         Check.lawFault("keeps if1=1", NONE);
         Check.lawFault("kee ps", 0);
+        Check.lawFault("keepsz", 0);
+        Check.lawFault("akeeps", 0);
+        Check.lawFault("passes 09", NONE);
         Check.lawFault("passes 10 00", 10);
         Check.lawFault("passes 1000", NONE);
         Check.lawFault("passes1", NONE);
@@ -257,6 +265,10 @@ final class TextBoundaries {
         Check.lawFault("keeps if " + times("(1=1)and", 20) + "(1=1)", NONE);
         Check.lawFault("passes " + times("[", 8) + "1" + times("]", 8) + "*" + times("[", 8) + "1" + times("]", 8), NONE);
         Check.ordersFault("out " + times("[", 9) + "1" + times("]", 9), 12);
+        Check.ordersFault("seat 0 at " + times("[", 9) + "1" + times("]", 9), 18);
+        Check.ordersFault("swap " + times("[", 8) + "1" + times("]", 8) + "with " + times("[", 9), 35);
+        due("eight in each sum", Check.orders(x, "swap " + times("[", 8) + "1" + times("]", 8) + "with " + times("[", 8) + "1"
+                + times("]", 8)), -3);
         ran("pass if " + times("(", 8) + "1=1" + times(")", 8), 1);
     }
 
@@ -350,6 +362,23 @@ final class TextBoundaries {
         ran("pass if 1=2 and 1/0=0 or 1=1", 1);
         ran("pass if 1=1 and 1/0=0 or 1=1", 0);
         ran("pass if (1=1 or 1/0=0) and 1=1", 1);
+    }
+
+    @Sentence(promises = {11, 12}, words = "SUM (\"<\" | \">\" | \"=\") SUM")
+    static void alikeAndNextToOneAnother(SteamNations x) {
+        String[] so = {"1<2", "2>1", "2=2", "0-1<0", "0>0-1", "not 1<1", "not 1>1", "not 1=2", "not 2<1", "not 1>2", "not not 1=1",
+            "not (not 1=1)", "not (not (not 1=2))", "not 1=2 and 1=1", "not 1=1 or 1=1", "2<1 or 1=1", "1>2 or 1=1"};
+        for (String test : so) {
+            ran("pass if " + test, 1);
+        }
+        String[] notSo = {"1<1", "2<1", "1>1", "1>2", "1=2", "not 1=1", "not 1=1 and 1=1", "1=1 and not 1=1", "2<1 and 1=1", "1>2 and 1=1",
+            "not 1=1 or not 1=1", "not (1=1 or 1=1)"};
+        for (String test : notSo) {
+            ran("pass if " + test, 0);
+        }
+        ran("pass if not (2<1 and 1/0=0)", 1);
+        ran("pass if not (1>2 and 1/0=0)", 1);
+        ran("pass if not (not 1=1 and 1/0=0)", 1);
     }
 
     // Laws
