@@ -472,4 +472,111 @@ final class KeptBoundaries {
         due("the 511th", x.count(12), 510);
         due("the 512th", x.count(4), 16);
     }
+
+    @Sentence(promises = {36, 37}, words = "BACK to one all that it keeps is as it was then")
+    static void firstLawsOfTwoImages(SteamNations x) {
+        Check.sitters(x, 5, 0, 0, 0, 5, 0);
+        x.seat(0, 0);
+        x.seat(1, 1);
+        x.image(0);
+        for (int i = 0; i < 6; i++) {
+            Check.law(x, "passes " + i);
+        }
+        x.image(1);
+        x.back(0);
+        for (int i = 0; i < 6; i++) {
+            due("other laws", Check.law(x, "passes " + (9 - i)), i);
+        }
+        x.back(1);
+        for (int i = 0; i < 6; i++) {
+            x.force(i);
+            due("law " + i + " is that of the image", x.asks(0, 1), i);
+        }
+        x.back(0);
+        due("no law", x.count(3), 0);
+        due("none in force", x.count(11), NONE);
+    }
+
+    @Sentence(promises = {36}, words = "(IMAGES stay)")
+    static void imageIsKeptAnew(SteamNations x) {
+        x.sitter(1, 0, 0, 0);
+        x.image(0);
+        x.seat(0, 3);
+        x.image(0);
+        x.seat(0, 5);
+        for (int i = 0; i < 3; i++) {
+            due("back", x.back(0), 0);
+            due("as it was when it was kept anew", x.of(0, 4), 3);
+            x.out(0);
+        }
+        due("the other was not kept", x.back(1), -2);
+        due("refused: nothing is brought back", x.of(0, 4) * 10 + x.count(4), -9);
+    }
+
+    @Sentence(promises = {39},
+            words = "-1 a number that can't be; -2 there is no such SITTER, LAW, IMAGE; -3 it can't be by what stands; -5 no room; -6 a TEXT, a ROW that can't be.")
+    static void refusedByEach(SteamNations x) {
+        refused(x, "a number", x.terms(2, 10), -1);
+        refused(x, "no such sitter", x.seat(0, 0), -2);
+        refused(x, "no such law", x.force(0), -2);
+        refused(x, "no such image", x.back(0), -2);
+        refused(x, "by what stands", x.undo(), -3);
+        refused(x, "a text", Check.law(x, "x"), -6);
+        refused(x, "another text", Check.orders(x, "x"), -6);
+        refused(x, "a row", x.row(), -6);
+        Check.fullRoom(x);
+        refused(x, "no room", x.sitter(0, 0, 0, 0), -5);
+        int[] often = {1, 3, 1, 1, 3};
+        for (int what = 6; what <= 10; what++) {
+            due("count(" + what + ")", x.count(what), often[what - 6]);
+        }
+    }
+
+    @Sentence(promises = {34}, words = "DRAWS of SITTERS, of 9, of 3")
+    static void drawsOfSixSitters(SteamNations x) {
+        for (int p = 0; p < 6; p++) {
+            x.sitter(0, 0, 0, p < 5 ? 0 : 1);
+        }
+        Check.rule(x, "passes 0");
+        int[] seats = {NONE, NONE, NONE, NONE, NONE, NONE};
+        int s = 11;
+        for (int n = 1; n <= 60; n++) {
+            s = (s * 1103 + 12345) % 1000003;
+            int who = s % 6;
+            s = (s * 1103 + 12345) % 1000003;
+            int where = s % 9;
+            s = (s * 1103 + 12345) % 1000003;
+            boolean taken = false;
+            for (int seat : seats) {
+                taken |= seat == where;
+            }
+            if (s % 3 == 0 && !taken) {
+                seats[who] = where;
+            } else if (s % 3 == 1) {
+                seats[who] = NONE;
+            }
+            due("five are what they wish", x.mornings(11, n), 5);
+            due("who was drawn at " + n, x.drawn(who, 3), seats[who]);
+        }
+        for (int p = 0; p < 6; p++) {
+            due("behind 60: sitter " + p, x.drawn(p, 3), seats[p]);
+        }
+        due("on paper alone", x.count(1), 0);
+    }
+
+    @Sentence(promises = {38}, words = "0 SITTERS, 1 how many have SEATS, 2 SEEN, 3 LAWS")
+    static void countsOfAFullRoom(SteamNations x) {
+        Check.fullRoom(x);
+        x.out(5);
+        for (int i = 0; i < 6; i++) {
+            x.seen(0, 0, 0);
+            Check.law(x, "keeps");
+        }
+        due("sitters", x.count(0), 6);
+        due("have seats", x.count(1), 5);
+        due("seen", x.count(2), 6);
+        due("laws", x.count(3), 6);
+        x.force(5);
+        due("in force", x.count(11), 5);
+    }
 }

@@ -287,4 +287,67 @@ final class MoveBoundaries {
         due("others leave it", x.undo(), 3);
         due("refused by -3", x.count(8), 5);
     }
+
+    @Sentence(promises = {17}, words = "To send OUT one who has a SEAT.")
+    static void outOfEachSeat(SteamNations x) {
+        Check.sitters(x, 1, 0, 0, 1, 0, 0);
+        for (int seat = 0; seat < 9; seat++) {
+            x.seat(1, seat);
+            due("out", x.out(1), seat);
+            due("OUT", x.of(1, 4), NONE);
+            due("nobody is there", x.at(seat), NONE);
+            due("nobody has a seat", x.count(1), 0);
+            due("OUT already", x.out(1), -3);
+            due("as many can be undone", x.count(4), Math.min(16, 2 * seat + 2));
+        }
+    }
+
+    @Sentence(promises = {18}, words = "To SWAP: two who have SEATS have each other's.")
+    static void swapOfAnyTwo(SteamNations x) {
+        for (int p = 0; p < 6; p++) {
+            x.sitter(p, 0, 0, 0);
+            x.seat(p, p < 3 ? p : p + 3);
+        }
+        // Seats 0 and 8 are not beside one another: that is no matter here.
+        due("the first and the last", x.swap(0, 5), 8);
+        due("the other", x.of(5, 4), 0);
+        due("at 0, at 8", x.at(0) * 10 + x.at(8), 50);
+        due("the other way round", x.swap(5, 0), 8);
+        due("as they sat", x.at(0) * 10 + x.at(8), 5);
+        due("as many have seats", x.count(1), 6);
+        due("parts stay", x.of(0, 0) * 10 + x.of(5, 0), 5);
+        for (int p = 1; p < 5; p++) {
+            due("others stay", x.of(p, 4), p < 3 ? p : p + 3);
+        }
+    }
+
+    @Sentence(promises = {19}, words = "it is the next MINUTE.")
+    static void nextMinuteToTheLast(SteamNations x) {
+        for (int minute : new int[] {0, 1, 499, 997, 998}) {
+            x.terms(0, minute);
+            due("pass", x.pass(), minute + 1);
+            due("minute", x.count(12), minute + 1);
+            due("undo", x.undo(), 3);
+            due("minute ahead", x.count(12), minute);
+        }
+        due("other terms stay", x.count(13) * 10 + x.count(14), 10);
+    }
+
+    @Sentence(promises = {16, 17, 18, 19}, words = "-3 it can't be by what stands")
+    static void whatCantBeChangesNothing(SteamNations x) {
+        Check.sitters(x, 9, 0, 0, 0, 9, 0, 0, 0, 9);
+        x.terms(0, 999);
+        x.seat(0, 0);
+        x.seat(1, 1);
+        due("seat", x.seat(2, 1), -3);
+        due("out", x.out(2), -3);
+        due("swap", x.swap(2, 0), -3);
+        due("swap, the other way round", x.swap(0, 2), -3);
+        due("pass", x.pass(), -3);
+        due("seats", x.of(0, 4) * 100 + x.of(1, 4) * 10 + x.of(2, 4), 9);
+        due("parts", x.of(0, 0) * 100 + x.of(1, 1) * 10 + x.of(2, 2), 999);
+        due("minute", x.count(12), 999);
+        due("two can be undone", x.count(4), 2);
+        due("refused by -3", x.count(8), 5);
+    }
 }

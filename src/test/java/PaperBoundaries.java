@@ -684,4 +684,133 @@ final class PaperBoundaries {
         due("in force as it was", x.count(11), NONE);
         due("parts as they were", x.of(0, 0), 3);
     }
+
+    // Questions asked again
+
+    @Sentence(promises = {24, 28}, words = "SEATINGS: all who have a SEAT on the SEATS that are taken")
+    static void askedAgainBehindWhatTold0(SteamNations x) {
+        due("nobody", x.pleased(9, 0), 0);
+        due("sitter 0", x.sitter(1, 0, 0, 0), 0);
+        due("one is what it wishes", x.pleased(9, 0), 1);
+        x.seat(0, 0);
+        due("on seat 0", x.sat(0, 0), 0);
+        due("out of seat 0", x.out(0), 0);
+        due("OUT", x.sat(0, 0), NONE);
+        x.seat(0, 5);
+        due("on seat 5", x.sat(0, 0), 5);
+        due("a seat is undone", x.undo(), 0);
+        due("OUT again", x.sat(0, 0), NONE);
+        x.image(0);
+        x.seat(0, 6);
+        due("on seat 6", x.pleased(0, 1), 6);
+        due("back", x.back(0), 0);
+        due("OUT, as it was kept", x.pleased(0, 1), NONE);
+        x.seat(0, 7);
+        due("on seat 7", x.pleased(0, 1), 7);
+    }
+
+    @Sentence(promises = {24, 25, 28, 29}, words = "PLEASED behind n MINUTES 0 .. 9")
+    static void askedAgainBehindLawsAndTerms(SteamNations x) {
+        x.sitter(9, 0, 0, 0);
+        x.sitter(0, 3, 0, 0);
+        x.seat(0, 0);
+        x.seat(1, 1);
+        Check.law(x, "passes 0; passes 4 if sitter = 0 and mood = 1 and minute < 5");
+        due("no law: 1 stays blue behind one", x.pleased(1, 0), 1);
+        due("none in force was", x.force(0), NONE);
+        due("mood 0", x.pleased(1, 0), 1);
+        due("mood was 0", x.terms(2, 1), 0);
+        due("mood 1", x.pleased(1, 0), 2);
+        due("minute was 0", x.terms(0, 5), 0);
+        due("minute 5", x.pleased(1, 0), 1);
+        x.terms(0, 4);
+        due("minute 4", x.pleased(1, 0), 2);
+        due("0 was in force", x.force(NONE), 0);
+        due("no law again", x.pleased(1, 0), 1);
+        x.force(0);
+        due("that law again", x.pleased(1, 0), 2);
+        x.pass();
+        due("behind a minute: it is that now", x.pleased(0, 0), 2);
+        x.undo();
+        due("it is not, undone", x.pleased(0, 0), 1);
+        Check.orders(x, "pass");
+        due("by orders, too", x.pleased(0, 0), 2);
+    }
+
+    @Sentence(promises = {28, 29}, words = "To ASK, n MINUTES on: the SITTER of whom the most of these SEATINGS would make the same NATION is least; the lowest.")
+    static void askOfTheSeatingsThatAreLeft(SteamNations x) {
+        // 0 makes red who sits beside it: 1 in four rows of six, 2 in four.
+        x.sitter(50, 0, 0, 0);
+        x.sitter(0, 1, 0, 0);
+        x.sitter(0, 1, 0, 0);
+        x.seat(0, 0);
+        x.seat(1, 1);
+        x.seat(2, 2);
+        Check.rule(x, "passes 0; passes 9 if sitter = 0");
+        due("all six", x.ask(1, 0) * 10 + x.ask(1, 1), 14);
+        x.seen(1, 1, 0);
+        due("1 was red: four are left", x.sat(NONE, 0), 4);
+        due("0 is red in all of these, 1 too, 2 in two", x.ask(1, 0) * 10 + x.ask(1, 1), 22);
+        due("now: all alike, the lowest", x.ask(0, 0) * 10 + x.ask(0, 1), 4);
+        x.seen(2, 1, 0);
+        due("2 was red, too: 0 in the middle", x.sat(NONE, 0), 2);
+        due("nobody differs: the lowest", x.ask(1, 0) * 10 + x.ask(1, 1), 2);
+        x.forget();
+        due("all six again", x.ask(1, 0) * 10 + x.ask(1, 1), 14);
+    }
+
+    @Sentence(promises = {24, 33}, words = "how many are what they WISH n MINUTES 0 .. 60 on")
+    static void sixAreWhatTheyWish(SteamNations x) {
+        for (int p = 0; p < 6; p++) {
+            x.sitter(p % 3 == 0 ? 9 : 0, p % 3 == 1 ? 9 : 0, p % 3 == 2 ? 9 : 0, p % 3);
+            x.seat(p, p);
+        }
+        Check.rule(x, "passes 0");
+        due("compared", x.compare(0, 60), 6);
+        due("pleased", x.pleased(9, 0), 6);
+        due("by a word of orders", Check.orders(x, "pass if pleased=6 and inside=6"), 1);
+        due("mornings", x.mornings(0, 60), 6);
+        due("all bits but those of no nation in common", x.treaty(9, 1), 1 + 8);
+    }
+
+    @Sentence(promises = {23}, words = "ONE. NONE (not in 60).")
+    static void oneNotInSixty(SteamNations x) {
+        redByRed(x, 61);
+        due("not in 60", x.one(), NONE);
+        x.pass();
+        due("a minute on: in 60", x.one(), 60);
+        x.undo();
+        due("not in 60 again", x.one(), NONE);
+        noRefusal(x);
+    }
+
+    @Sentence(promises = {31}, words = "in each of n MINUTES (SEATS as now)")
+    static void dropBySeatsAsNow(SteamNations x) {
+        Check.sitters(x, 5, 0, 0, 0, 0, 0);
+        x.seat(0, 0);
+        x.seat(1, 1);
+        Check.rule(x, "passes 9; keeps; leaves");
+        due("who must leave, who keeps: no matter", x.drop(0, 2, 1), 180000);
+        x.seat(1, 2);
+        due("not beside it now", x.drop(0, 60, 1), 0);
+        x.seat(1, 3);
+        due("beside it again", x.drop(0, 2, 1), 180000);
+        due("parts are no matter", x.drop(1, 2, 0), 180000);
+    }
+
+    @Sentence(promises = {32}, words = "FEW: the chance, of 1,000,000,000,000 parts, that of n sitters")
+    static void fewOfAsMany(SteamNations x) {
+        x.terms(1, 5);
+        long none = WHOLE;
+        for (int n = 1; n <= 12; n++) {
+            none /= 2;
+            due("none of " + n, x.few(1, n), none);
+            // A half of each part is not cut up to 12 times: the chances are whole numbers.
+            due("fewer than all of " + n, x.few(n, n), WHOLE - none);
+            due("as many or fewer of " + n, x.few(n + 1, n), WHOLE);
+        }
+        due("none but one of 2", x.few(2, 2), 750000000000L);
+        due("fewer than ten of nine", x.few(10, 9), WHOLE);
+        due("how many there are in the room is no matter", x.count(0), 0);
+    }
 }

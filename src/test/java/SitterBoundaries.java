@@ -370,4 +370,43 @@ final class SitterBoundaries {
         due("the same again", x.terms(1, 1), 1);
         due("not refused", x.status(), 0);
     }
+
+    @Sentence(promises = {3, 11}, words = "it KEEPS all, if \"keeps\" HOLDS; it must LEAVE, if \"leaves\" HOLDS.")
+    static void oneOfManyHolds(SteamNations x) {
+        x.sitter(1, 0, 0, 0);
+        x.seat(0, 0);
+        StringBuilder law = new StringBuilder("passes 1");
+        for (int mood = 0; mood < 5; mood++) {
+            law.append(";keeps if mood=").append(mood).append(";leaves if mood=").append(mood + 4);
+        }
+        Check.rule(x, law.toString());
+        for (int mood = 0; mood <= 9; mood++) {
+            x.terms(2, mood);
+            due("keeps at mood " + mood, x.of(0, 6), mood < 5 ? 1 : 0);
+            due("leaves at mood " + mood, x.of(0, 7), mood >= 4 && mood < 9 ? 1 : 0);
+        }
+        Check.rule(x, "passes 9");
+        due("no keeps, no leaves", x.of(0, 6) + x.of(0, 7), 0);
+    }
+
+    @Sentence(promises = {3, 19}, words = "it KEEPS all, if \"keeps\" HOLDS")
+    static void whoKeepsAllIsGivenTo(SteamNations x) {
+        Check.sitters(x, 5, 0, 0, 0, 5, 0);
+        x.seat(0, 0);
+        x.seat(1, 1);
+        Check.rule(x, "passes 2; keeps if sitter = 0");
+        due("what it would pass is told", x.asks(0, 1), 2);
+        x.pass();
+        due("it has all of its own", x.of(0, 0), 5);
+        due("and what the other one passed", x.of(0, 1) * 10 + x.of(1, 1), 23);
+    }
+
+    @Sentence(promises = {1, 3, 4}, words = "`NONE = -1`: There is none; OUT.")
+    static void noneIsMinusOne(SteamNations x) {
+        due("NONE", SteamNations.NONE, -1);
+        x.sitter(1, 0, 0, 0);
+        due("OUT", x.of(0, 4), -1);
+        due("nobody", x.at(0), -1);
+        due("no fault, no clause, no law", x.fault() + x.stopped() + x.count(11), -3);
+    }
 }

@@ -627,4 +627,137 @@ final class TextBoundaries {
         Check.orders(x, "pass out");
         due("it could not be read", x.stopped(), NONE);
     }
+
+    @Sentence(promises = {11, 12}, words = "a word, as told.")
+    static void wordsThatAreNone(SteamNations x) {
+        String[] none = {"x", "a", "z", "no", "nots", "sitters", "sitte", "moods", "minut", "passe", "orr", "iff"};
+        for (String word : none) {
+            Check.lawFault(word, 0);
+            Check.lawFault("passes " + word, 7);
+            Check.lawFault("passes 1 " + word + " 1", 9);
+            Check.lawFault("keeps " + word + " 1=1", 6);
+            Check.lawFault("keeps if " + word + " 1=1", 9);
+            Check.lawFault("keeps if 1=" + word, 11);
+            Check.lawFault("keeps if 1=1 " + word + " 1=1", 13);
+            Check.ordersFault(word, 0);
+            Check.ordersFault("out " + word, 4);
+            Check.ordersFault("seat 0 " + word + " 0", 7);
+            Check.ordersFault("swap 0 " + word + " 0", 7);
+            Check.ordersFault("pass " + word, 5);
+            Check.ordersFault("pass times " + word, 11);
+            Check.ordersFault("pass if is " + word + "=0", 11);
+            Check.ordersFault("pass if not " + word + " 1=1", 12);
+        }
+    }
+
+    @Sentence(promises = {11}, words = "Words: \"sitter\" | \"other\" | \"tier\" | \"nation\" | \"much\" | \"wish\" | \"minute\" | \"mood\".")
+    static void wordsOfLawsAlone(SteamNations x) {
+        String[] words = {"sitter", "other", "tier", "nation", "much", "wish", "minute", "mood"};
+        for (String word : words) {
+            Check.lawFault("passes " + word, NONE);
+            Check.lawFault("passes " + word + " 0", 8 + word.length());
+            Check.lawFault(word, 0);
+        }
+        for (String word : new String[] {"sitter", "other", "tier", "nation", "wish", "mood"}) {
+            Check.ordersFault("out " + word, 4);
+        }
+        Check.ordersFault("out much", 8);
+    }
+
+    @Sentence(promises = {12}, words = "Words: \"minute\" | \"done\" | \"latest\" | \"inside\" | \"pleased\" | \"is\" P | \"much\" P")
+    static void wordsOfOrdersAlone(SteamNations x) {
+        for (String word : new String[] {"minute", "done", "latest", "inside", "pleased", "is 5", "much 5"}) {
+            ran("pass if " + word + "=" + word, 1);
+            Check.ordersFault("pass if " + word + " 0", 9 + word.length());
+            Check.ordersFault(word, 0);
+        }
+        for (String word : new String[] {"done", "latest", "inside", "pleased", "is", "is 0"}) {
+            Check.lawFault("passes " + word, 7);
+        }
+        Check.lawFault("passes much 5", 12);
+    }
+
+    @Sentence(promises = {11, 12}, words = "CLAUSE: (\"passes\" SUM | \"keeps\" | \"leaves\") [\"if\" TEST].")
+    static void wordsThatOpenOrGoOn(SteamNations x) {
+        String[] others = {"passes", "keeps", "leaves", "seat", "out", "swap", "pass", "at", "with", "times", "if", "or", "and", "not"};
+        for (String word : others) {
+            Check.lawFault("passes " + word, 7);
+            Check.lawFault("keeps if 1=" + word, 11);
+            Check.ordersFault("out " + word, 4);
+            Check.ordersFault("pass times " + word, 11);
+            Check.ordersFault("pass if is " + word, 11);
+        }
+        for (String word : new String[] {"seat", "out", "swap", "pass", "at", "with", "times", "if", "or", "and", "not"}) {
+            Check.lawFault(word, 0);
+            Check.lawFault("keeps;" + word, 6);
+        }
+        for (String word : new String[] {"passes", "keeps", "leaves", "at", "with", "times", "if", "or", "and", "not"}) {
+            Check.ordersFault(word, 0);
+            Check.ordersFault("pass;" + word, 5);
+        }
+        Check.lawFault("keeps times 2", 6);
+        Check.lawFault("leaves 1", 7);
+        Check.lawFault("keeps or 1=1", 6);
+    }
+
+    @Sentence(promises = {11, 12, 13}, words = "TEXTS are on a TAPE of at most 400 bytes.")
+    static void longTextsOneBehindAnother(SteamNations x) {
+        String most = "pass if 0" + times("+1", 47) + "=47";
+        String beyond = "pass if 0" + times("+1", 50) + "=47";
+        for (int i = 1; i <= 20; i++) {
+            due("orders " + i, Check.orders(x, most), 1);
+            due("fault " + i, x.fault(), NONE);
+            due("minute " + i, x.count(12), i);
+        }
+        for (int i = 0; i < 5; i++) {
+            due("one that can't be read", Check.orders(x, beyond), -6);
+            due("one that can", Check.orders(x, most), 1);
+        }
+        for (int i = 0; i < 6; i++) {
+            due("laws, too", Check.law(x, "passes 0" + times("+1", 49)), i);
+        }
+    }
+
+    @Sentence(promises = {8, 9}, words = "The TAPE has its first n bytes alone: n.")
+    static void whatComesBehindTheEnd(SteamNations x) {
+        x.feed(0x01020300, 0x04050601, 0x07080902, 0, 0);
+        due("four are left", x.end(4), 4);
+        due("bytes", x.count(5), 4);
+        due("twenty more", x.feed(0x0a0b0c02, 0, 0, 0, 0), 24);
+        due("eight are left", x.end(8), 8);
+        due("row", x.row(), 2);
+        due("the first", x.of(0, 0) * 100 + x.of(0, 1) * 10 + x.of(0, 2), 123);
+        due("the second is what came behind the end", x.of(1, 0) * 10000 + x.of(1, 1) * 100 + x.of(1, 2), 101112);
+        due("its wish", x.of(1, 3), 2);
+    }
+
+    @Sentence(promises = {9}, words = "A ROW, the TAPE is empty then: how many SITTERS came.")
+    static void tapeBehindARow(SteamNations x) {
+        Check.put(x, new byte[400]);
+        due("six came", x.row(), 6);
+        due("the tape is empty", x.count(5), 0);
+        due("nothing is left", x.end(1), NONE);
+        due("the first twenty anew", x.feed(0, 0, 0, 0, 0), 20);
+    }
+
+    @Sentence(promises = {11}, words = "The TAPE, which is empty then, becomes a LAW: its number.")
+    static void tapeBehindALaw(SteamNations x) {
+        due("a law", Check.law(x, "keeps"), 0);
+        due("the tape is empty", x.count(5), 0);
+        due("it is not read again", x.law(), -6);
+        due("one that can't be read", Check.law(x, "keeps if"), -6);
+        due("the tape is empty", x.count(5), 0);
+        due("the next one's number", Check.law(x, "keeps"), 1);
+    }
+
+    @Sentence(promises = {12}, words = "then its SUMS from the left")
+    static void sumsAskedOnlyBehindIf(SteamNations x) {
+        Check.sitters(x, 1, 0, 0);
+        due("broken sums of what is not run", Check.orders(x, "seat 1/0 at 0 if 1=2;out 1%0 if 1/0=0;swap 0 with 1/0 if not 1=1"), 0);
+        due("none stopped it", x.stopped(), NONE);
+        due("sums as it is at each time", Check.orders(x, "seat inside at done+3;seat 0 at done+3 times 4"), 5);
+        due("the last seat", x.of(0, 4), 7);
+        due("one too far", Check.orders(x, "seat 0 at done*4 times 4"), -3);
+        due("as it was", x.of(0, 4), 7);
+    }
 }
